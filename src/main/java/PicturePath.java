@@ -13,6 +13,7 @@ public final class PicturePath {
     private static final int TOP = 4095;
     private static final int GAIN_TOP = 8000;
     private static final int ENTRY_TOP = 4000;
+    /** Gains and matrices are told in thousandths, so that this one changes nothing. */
     private static final int ONE = 1000;
     private static final int CURVE_WAY = 256;
 

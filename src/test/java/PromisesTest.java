@@ -70,6 +70,14 @@ public final class PromisesTest {
         due("1 dead ones", p.count(2), 0);
         due("1 steps", p.count(3), 0);
         due("1 number", p.at(0, 0, 0, 0), 0);
+        due("1 not dead", p.dead(0, 0, false), 0);
+        int[] stage = {1, 1, 1, 0, 1};
+        for (int what = 0; what < 5; what++) {
+            due("1 stage 0, " + what, p.stage(0, what), stage[what]);
+        }
+        due("1 no stage 1", p.stage(1, 0), UNKNOWN);
+        due("1 nothing beside it", p.part(0, 0, 2, 1, 0), OUTSIDE);
+        due("1 nothing below it", p.part(0, 0, 1, 2, 0), OUTSIDE);
         due("1 no second column", p.cell(1, 0, 0), UNKNOWN);
         due("1 no second row", p.cell(0, 1, 0), UNKNOWN);
     }
