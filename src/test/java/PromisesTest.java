@@ -40,29 +40,6 @@ public final class PromisesTest {
         dues.due(call, got, want);
     }
 
-    /** A path of this size whose cell (x, y) has the number base + 10 x + 100 y. */
-    private static PicturePath sloping(int w, int h, int base) {
-        PicturePath p = new PicturePath();
-        p.size(w, h);
-        for (int y = 0; y < h; y++) {
-            for (int x = 0; x < w; x++) {
-                p.cell(x, y, base + 10 * x + 100 * y);
-            }
-        }
-        return p;
-    }
-
-    private static PicturePath flat(int w, int h, int number) {
-        PicturePath p = new PicturePath();
-        p.size(w, h);
-        for (int y = 0; y < h; y++) {
-            for (int x = 0; x < w; x++) {
-                p.cell(x, y, number);
-            }
-        }
-        return p;
-    }
-
     private static void promise1NewObject() {
         PicturePath p = new PicturePath();
         due("1 width", p.count(0), 1);
@@ -190,7 +167,7 @@ public final class PromisesTest {
     }
 
     private static void promise6Gain() {
-        PicturePath p = flat(2, 2, 999);
+        PicturePath p = Pictures.flat(2, 2, 999);
         due("6 gain", p.gain(0, 1500, 8000), 1);
         due("6 colour 0", p.at(1, 0, 0, 0), 0);
         due("6 colour 1 right", p.at(1, 1, 0, 0), 1498);
@@ -218,7 +195,7 @@ public final class PromisesTest {
     }
 
     private static void promise7Step() {
-        PicturePath p = flat(4, 4, 1);
+        PicturePath p = Pictures.flat(4, 4, 1);
         int[] wrong = {0, 1, 5, 6, 8, -1, LOW, HIGH};
         for (int kind : wrong) {
             due("7 kind " + kind, p.step(kind), OUTSIDE);
@@ -242,7 +219,7 @@ public final class PromisesTest {
         due("7 half: STATE ahead of FULL", p.step(HALF), STATE);
         due("7 OUTSIDE ahead of FULL", p.step(8), OUTSIDE);
 
-        PicturePath full = flat(2, 2, 1);
+        PicturePath full = Pictures.flat(2, 2, 1);
         for (int i = 1; i <= 10; i++) {
             due("7 step " + i, full.step(i % 2 == 0 ? MEND : MIDDLE), i);
         }
@@ -253,7 +230,7 @@ public final class PromisesTest {
     }
 
     private static void promise7Mend() {
-        PicturePath p = sloping(5, 5, 0);
+        PicturePath p = Pictures.sloping(5, 5, 0);
         p.cell(2, 2, 999);
         p.cell(0, 2, 201);
         p.dead(2, 2, true);
@@ -270,7 +247,7 @@ public final class PromisesTest {
         due("7 without any it stays", p.at(1, 2, 2, 0), 999);
         due("7 by those of the picture ahead", p.at(1, 0, 2, 0), (0 + 400) / 2);
 
-        PicturePath again = flat(5, 1, 0);
+        PicturePath again = Pictures.flat(5, 1, 0);
         again.cell(4, 0, 80);
         again.dead(0, 0, true);
         again.dead(2, 0, true);
@@ -283,7 +260,7 @@ public final class PromisesTest {
     }
 
     private static void promise7Middle() {
-        PicturePath p = flat(5, 5, 50);
+        PicturePath p = Pictures.flat(5, 5, 50);
         p.cell(2, 2, 1000);
         p.step(MIDDLE);
         due("7 spike out", p.at(1, 2, 2, 0), 50);
@@ -306,7 +283,7 @@ public final class PromisesTest {
     }
 
     private static void promise7Colours() {
-        PicturePath p = sloping(4, 4, 0);
+        PicturePath p = Pictures.sloping(4, 4, 0);
         p.step(COLOURS);
         due("7 own of 0", p.at(1, 2, 2, 0), 220);
         due("7 own of 1", p.at(1, 1, 2, 1), 210);
@@ -324,13 +301,13 @@ public final class PromisesTest {
         p.dead(1, 0, true);
         due("7 dead ones count like others", p.at(1, 0, 0, 1), 55);
 
-        PicturePath row = flat(3, 1, 9);
+        PicturePath row = Pictures.flat(3, 1, 9);
         row.step(COLOURS);
         due("7 a row has none of 2", row.at(1, 1, 0, 2), 0);
     }
 
     private static void promise7Half() {
-        PicturePath p = flat(5, 3, 0);
+        PicturePath p = Pictures.flat(5, 3, 0);
         p.step(COLOURS);
         p.step(HALF);
         p.cell(0, 0, 7);
@@ -339,10 +316,10 @@ public final class PromisesTest {
         due("7 half height", p.stage(2, 1), 1);
         due("7 no second row", p.at(2, 0, 1, 0), OUTSIDE);
 
-        PicturePath narrow = flat(1, 4, 1);
+        PicturePath narrow = Pictures.flat(1, 4, 1);
         narrow.step(COLOURS);
         due("7 width of 1", narrow.step(HALF), STATE);
-        PicturePath low = flat(4, 1, 1);
+        PicturePath low = Pictures.flat(4, 1, 1);
         low.step(COLOURS);
         due("7 height of 1", low.step(HALF), STATE);
     }
@@ -370,7 +347,7 @@ public final class PromisesTest {
     }
 
     private static void promise9Matrix() {
-        PicturePath p = sloping(2, 2, 100);
+        PicturePath p = Pictures.sloping(2, 2, 100);
         due("9 ahead of colours", p.matrix(), STATE);
         p.step(COLOURS);
         due("9 colours of (0, 0) 0", p.at(1, 0, 0, 0), 100);
@@ -424,7 +401,7 @@ public final class PromisesTest {
     }
 
     private static void promise11Curve() {
-        PicturePath p = flat(2, 2, 0);
+        PicturePath p = Pictures.flat(2, 2, 0);
         due("11 ahead of colours", p.curve(), STATE);
         p.cell(0, 0, 1000);
         p.gain(4095, 1000, 1000);
@@ -474,7 +451,7 @@ public final class PromisesTest {
     }
 
     private static void promise12Undo() {
-        PicturePath p = flat(4, 4, 8);
+        PicturePath p = Pictures.flat(4, 4, 8);
         due("12 none", p.undo(), STATE);
         long before = p.digest();
         p.black(1);
@@ -493,7 +470,7 @@ public final class PromisesTest {
     }
 
     private static void promise13Kind() {
-        PicturePath p = flat(2, 2, 1);
+        PicturePath p = Pictures.flat(2, 2, 1);
         due("13 none", p.kind(0), NONE);
         p.black(1);
         p.gain(1, 1, 1);
@@ -555,7 +532,7 @@ public final class PromisesTest {
     }
 
     private static void promise15At() {
-        PicturePath p = sloping(4, 2, 50);
+        PicturePath p = Pictures.sloping(4, 2, 50);
         p.black(30);
         p.step(COLOURS);
         p.step(HALF);
@@ -580,7 +557,7 @@ public final class PromisesTest {
     }
 
     private static void promise16Part() {
-        PicturePath p = sloping(4, 3, 0);
+        PicturePath p = Pictures.sloping(4, 3, 0);
         due("16 of cells", p.part(1, 1, 2, 2, 0), 110 + 120 + 210 + 220);
         due("16 one", p.part(3, 2, 1, 1, 0), 230);
         due("16 all", p.part(0, 0, 4, 3, 0), 4 * (0 + 100 + 200) + 3 * (10 + 20 + 30));
@@ -598,7 +575,7 @@ public final class PromisesTest {
         due("16 within the last stage", p.part(0, 0, 2, 1, 0), p.at(3, 0, 0, 0) + p.at(3, 1, 0, 0));
         due("16 beyond the last stage", p.part(0, 0, 2, 2, 0), OUTSIDE);
 
-        PicturePath bright = flat(16, 16, 1023);
+        PicturePath bright = Pictures.flat(16, 16, 1023);
         bright.gain(8000, 8000, 8000);
         due("16 the greatest sum", bright.part(0, 0, 16, 16, 0), 256 * 4095);
     }
@@ -618,7 +595,7 @@ public final class PromisesTest {
     }
 
     private static void promise17Needs() {
-        PicturePath p = sloping(9, 9, 0);
+        PicturePath p = Pictures.sloping(9, 9, 0);
         due("17 cells need themselves", p.needs(2, 3, 4, 5), 20);
         p.black(1023);
         p.gain(0, 0, 0);
@@ -655,7 +632,7 @@ public final class PromisesTest {
     }
 
     private static void promise18Counts() {
-        PicturePath p = sloping(7, 7, 0);
+        PicturePath p = Pictures.sloping(7, 7, 0);
         due("18 itself", p.counts(3, 3, 3, 3, 0), 1);
         due("18 no other", p.counts(3, 2, 3, 3, 0), 0);
         p.step(MIDDLE);
@@ -700,7 +677,7 @@ public final class PromisesTest {
     }
 
     private static void promise19Bound() {
-        PicturePath p = sloping(4, 4, 5);
+        PicturePath p = Pictures.sloping(4, 4, 5);
         due("19 least", p.bound(0, 0), 5);
         due("19 greatest", p.bound(0, 1), 335);
         p.cell(3, 3, 0);
@@ -720,7 +697,7 @@ public final class PromisesTest {
         for (int side : sides) {
             due("19 side " + side, p.bound(0, side), OUTSIDE);
         }
-        PicturePath bright = flat(2, 2, 1023);
+        PicturePath bright = Pictures.flat(2, 2, 1023);
         bright.gain(8000, 8000, 8000);
         due("19 least 4095", bright.bound(0, 0), 4095);
     }

@@ -2,8 +2,14 @@
 final class Dues {
     private static final int MOST_TOLD = 50;
 
+    private String sentence = "";
     private int looked;
     private int wrong;
+
+    /** The sentence of the document that the answers from here on are looked at for. */
+    void about(String words) {
+        sentence = words + ": ";
+    }
 
     void due(String call, long got, long want) {
         looked++;
@@ -12,7 +18,7 @@ final class Dues {
         }
         wrong++;
         if (wrong <= MOST_TOLD) {
-            System.out.println(call + " answered " + got + ", due is " + want);
+            System.out.println(sentence + call + " answered " + got + ", due is " + want);
         }
     }
 
