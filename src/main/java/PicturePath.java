@@ -221,7 +221,7 @@ public final class PicturePath {
         demand.begin(last);
         demand.askFor(x, y, 1, 1, plane);
         demand.traceBack(steps);
-        return demand.isAsked(0, cx, cy, 0) ? 1 : 0;
+        return demand.isCellAsked(cx, cy) ? 1 : 0;
     }
 
     public int bound(int plane, int side) {
@@ -453,8 +453,8 @@ public final class PicturePath {
             }
         }
 
-        boolean isAsked(int k, int x, int y, int plane) {
-            return (rows[k][plane * SIDE + y] >> x & 1) == 1;
+        boolean isCellAsked(int x, int y) {
+            return (rows[0][y] >> x & 1) == 1;
         }
 
         int cellsAsked() {
@@ -622,7 +622,7 @@ public final class PicturePath {
         private void takeCells(Cells cells, Demand demand) {
             for (int y = 0; y < cells.height; y++) {
                 for (int x = 0; x < cells.width; x++) {
-                    if (demand.isAsked(0, x, y, 0)) {
+                    if (demand.isCellAsked(x, y)) {
                         ahead[placeOf(x, y)] = cells.numbers[placeOf(x, y)];
                     }
                 }

@@ -7,6 +7,7 @@ public final class CellEdgesTest {
     private static final Dues dues = new Dues();
 
     public static void main(String[] args) {
+        constantsAreTheDocuments();
         aNewObjectHasOneCell();
         aNewObjectHasNoSteps();
         aNewObjectHasTheFirstNumbersAtHand();
@@ -42,6 +43,15 @@ public final class CellEdgesTest {
 
     private static void due(String call, long got, long want) {
         dues.due(call, got, want);
+    }
+
+    private static void constantsAreTheDocuments() {
+        dues.about("The public face");
+        due("NONE", PicturePath.NONE, NONE);
+        due("UNKNOWN", PicturePath.UNKNOWN, UNKNOWN);
+        due("OUTSIDE", PicturePath.OUTSIDE, OUTSIDE);
+        due("STATE", PicturePath.STATE, STATE);
+        due("FULL", PicturePath.FULL, -104);
     }
 
     private static void aNewObjectHasOneCell() {

@@ -169,21 +169,25 @@ public final class RefusalsTest {
             p.cell(i % 5, i / 5, (i * 397 + 11) % 1024);
             p.dead(i % 5, i / 5, i % 6 == 2);
         }
-        p.entry(1, -250);
-        p.entry(8, 1700);
-        p.point(3, 700);
+        // none as at first, so that a number at hand brought back to its first one is seen
+        for (int i = 0; i < 9; i++) {
+            p.entry(i, i % 4 == 0 ? 1700 - 50 * i : 35 * i - 150);
+        }
+        for (int i = 0; i < 17; i++) {
+            p.point(i, 20 + 250 * i);
+        }
         switch (state) {
             case 1: break;
             case 2: p.black(17); p.gain(2100, 900, 1300); break;
             case 3: Pictures.addAll(p, 2, 3); break;
             case 4: Pictures.addAll(p, 4); break;
-            case 5: Pictures.addAll(p, 2, 4, 5, 6); p.entry(1, 250); break;
+            case 5: Pictures.addAll(p, 2, 4, 5, 6); p.entry(1, 250); p.point(1, 300); break;
             case 6: Pictures.addAll(p, 3, 4, 7); break;
             case 7: Pictures.addAll(p, 4, 7, 5, 7); break;
             case 8: Pictures.addAll(p, 0, 1, 2, 3, 0, 1, 2, 3, 0, 1); break;
             case 9: Pictures.addAll(p, 0, 1, 2, 3, 4, 5, 6, 7, 5, 6); break;
             case 10: Pictures.addAll(p, 2, 4, 5, 6, 5, 6, 5, 6, 5, 6); break;
-            default: Pictures.addAll(p, 2, 4); p.point(4, 699); break;
+            default: Pictures.addAll(p, 2, 4); p.point(4, 769); break;
         }
         return p;
     }

@@ -38,6 +38,7 @@ public final class StepEdgesTest {
         matrixAtFirstChangesNothing();
         matrixEntriesEach();
         matrixIsRoundedDownOnce();
+        matrixJustBelowAWhole();
         matrixIsAtLeast0();
         matrixIsAtMost4095();
         matrixOfNumbersBeyondAtFirst();
@@ -631,6 +632,21 @@ public final class StepEdgesTest {
         due("10000 less 9995", p.at(3, 0, 0, 0), 0);
         due("10000 less 9000", p.at(3, 0, 0, 1), 1);
         due("10000 less 9005", p.at(3, 0, 0, 2), 0);
+    }
+
+    private static void matrixJustBelowAWhole() {
+        dues.about("MATRIX: rounded down, a thousandth below a whole");
+        int[][] rows = {{1, 999, 0}, {1, 1000, 1}, {1, 1001, 1}, {1, 1999, 1}, {1, 3999, 3}, {3, 333, 0}, {3, 667, 2}, {27, 37, 0},
+            {37, 27, 0}, {40, 25, 1}, {1023, 3999, 4090}, {1021, 3999, 4082}, {0, 4000, 0}};
+        for (int[] r : rows) {
+            PicturePath p = Pictures.flat(1, 1, r[0]);
+            p.step(COLOURS);
+            entries(p, r[1], 0, 0, r[1], 4000, 4000, r[1], -4000, -4000);
+            p.matrix();
+            for (int plane = 0; plane < 3; plane++) {
+                due(r[0] + " times " + r[1] + ", plane " + plane, p.at(2, 0, 0, plane), r[2]);
+            }
+        }
     }
 
     private static void matrixIsAtLeast0() {
