@@ -266,6 +266,7 @@ public final class ReferenceTest {
         final Random random;
         final Model m = new Model();
         final PicturePath p = new PicturePath();
+        int calls;
 
         Run(int seed) {
             this.seed = seed;
@@ -277,13 +278,14 @@ public final class ReferenceTest {
             for (int i = 0; i < 100; i++) {
                 cell();
             }
-            for (int i = 101; i < CALLS; i++) {
-                call(random.nextInt(32));
+            while (calls < CALLS) {
+                callOrPass(random.nextInt(32));
             }
         }
 
         void due(String call, long got, long want) {
-            dues.due("seed " + seed + ": " + call, got, want);
+            calls++;
+            dues.due("seed " + seed + ", call " + calls + ": " + call, got, want);
         }
 
         /** Most often least to greatest, sometimes just beyond, seldom far beyond. */
@@ -303,7 +305,8 @@ public final class ReferenceTest {
             return v >= least && v <= greatest;
         }
 
-        void call(int which) {
+        /** Not every turn is a call: sizes and undos are passed over at times. */
+        void callOrPass(int which) {
             switch (which) {
                 case 0: if (random.nextInt(8) == 0) { size(some(1, 16), some(1, 16)); } break;
                 case 1: case 2: cell(); break;
